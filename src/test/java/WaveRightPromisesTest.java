@@ -68,7 +68,7 @@ public final class WaveRightPromisesTest {
     private static void seaFault(String text, int at) {
         WaveRight x = sea(TWO);
         write(x, text);
-        is("sea of " + text, x::sea, at == -1 ? x.count(1) : ARGUMENT);
+        is("sea of " + text, () -> x.sea() == x.count(1) ? 1 : 0, at == -1 ? 1 : ARGUMENT);
         due("fault of " + text, x.fault(), at);
     }
 
@@ -145,6 +145,16 @@ public final class WaveRightPromisesTest {
         seaFault("heat;", 4);
         seaFault("again 31;", 6);
         seaFault("again 0;again 0;", 8);
+        seaFault("heat 5;heat 6;", 7);
+        for (String kept : "surfer at swims heat again wave left right both high long".split(" ")) {
+            seaFault("surfer " + kept + " at 1 swims 1;", 7);
+        }
+        seaFault("surfer az at 1 swims 1;surfer zz at 1 swims 1;surfer zz at 1", 53);
+        seaFault("surfer plus at 1 swims 1;surfer seas at 1 swims 1;", -1);
+        seaFault(TWO + "wave 1 at 1 high 1 long 1;", TWO.length() + 12);
+        seaFault(TWO + "wave 1 at high 1 long 1;", TWO.length() + 10);
+        seaFault(TWO + "wave 1 at 1 both at 1 long 1;", TWO.length() + 17);
+        seaFault(TWO + "wave 5 at 1 both high 1 long 1;wave 5 at 1 left high 9 long 15;", -1);
         seaFault(TWO + "wave 5 at 1 both high 1 long 1;wave 4 at", TWO.length() + 36);
         seaFault(TWO + "wave 100 at", TWO.length() + 5);
         seaFault(TWO + "wave 1 at 1 both high 10", TWO.length() + 22);
