@@ -1,69 +1,8 @@
-import java.util.NoSuchElementException;
-import java.util.function.LongSupplier;
-
 /** Each promise by answers that were reckoned by hand from the document. */
-public final class WaveRightPromisesTest {
-    private static final long INDEX = -1001;
-    private static final long ARGUMENT = -1002;
-    private static final long STATE = -1003;
-    private static final long ELEMENT = -1004;
-
+public final class WaveRightPromisesTest extends Due {
     private static final String TWO = "surfer ann at 10 swims 2; surfer bob at 12 swims 3;";
     private static final String FOUR = "surfer ann at 10 swims 2;surfer bob at 12 swims 3;surfer cy at 10 swims 1;"
             + "surfer dee at 14 swims 5;heat 40;";
-
-    private static int wrong = 0;
-    private static String promise = "";
-
-    private static void due(String call, long is, long due) {
-        if (is != due) {
-            wrong++;
-            System.out.println(promise + ": " + call + " answered " + is + ", due is " + due);
-        }
-    }
-
-    private static void is(String call, LongSupplier made, long due) {
-        long answer;
-        try {
-            answer = made.getAsLong();
-        } catch (IndexOutOfBoundsException e) {
-            answer = e.getClass() == IndexOutOfBoundsException.class ? INDEX : -2001;
-        } catch (IllegalArgumentException e) {
-            answer = e.getClass() == IllegalArgumentException.class ? ARGUMENT : -2002;
-        } catch (IllegalStateException e) {
-            answer = e.getClass() == IllegalStateException.class ? STATE : -2003;
-        } catch (NoSuchElementException e) {
-            answer = e.getClass() == NoSuchElementException.class ? ELEMENT : -2004;
-        }
-        due(call, answer, due);
-    }
-
-    private static void write(WaveRight x, String text) {
-        x.end(0);
-        String padded = text + "\0".repeat((20 - text.length() % 20) % 20);
-        for (int at = 0; at < padded.length(); at += 20) {
-            int[] five = new int[5];
-            for (int k = 0; k < 20; k++) {
-                five[k / 4] = five[k / 4] << 8 | padded.charAt(at + k);
-            }
-            x.feed(five[0], five[1], five[2], five[3], five[4]);
-        }
-        x.end(text.length());
-    }
-
-    private static WaveRight sea(String text) {
-        WaveRight x = new WaveRight();
-        write(x, text);
-        x.sea();
-        return x;
-    }
-
-    private static WaveRight judged(String sea, String judge) {
-        WaveRight x = sea(sea);
-        write(x, judge);
-        x.judge();
-        return x;
-    }
 
     private static void seaFault(String text, int at) {
         WaveRight x = sea(TWO);
@@ -90,7 +29,7 @@ public final class WaveRightPromisesTest {
     }
 
     private static void texts() {
-        promise = "1 a new object";
+        sentence("1 a new object");
         WaveRight x = new WaveRight();
         due("count(0)", x.count(0), 0);
         due("count(4)", x.count(4), 30);
@@ -101,7 +40,7 @@ public final class WaveRightPromisesTest {
         is("ranked", () -> x.ranked(0), ELEMENT);
         due("NONE", WaveRight.NONE, -1);
 
-        promise = "2 feed";
+        sentence("2 feed");
         for (int k = 1; k <= 20; k++) {
             due("feed", x.feed(0x70_6c_75_73, -1, 0, 1, 2), 20 * k);
         }
@@ -112,7 +51,7 @@ public final class WaveRightPromisesTest {
         due("fault", x.fault(), 4);
         due("feed behind a judge", x.feed(0, 0, 0, 0, 0), 20);
 
-        promise = "3 end";
+        sentence("3 end");
         due("end(-1)", x.end(-1) ? 1 : 0, 0);
         due("end(21)", x.end(21) ? 1 : 0, 0);
         due("end(20)", x.end(20) ? 1 : 0, 1);
@@ -123,7 +62,7 @@ public final class WaveRightPromisesTest {
     }
 
     private static void seaTexts() {
-        promise = "4 sea";
+        sentence("4 sea");
         seaFault("", 0);
         seaFault(" \n\t", 3);
         seaFault(TWO, -1);
@@ -178,7 +117,7 @@ public final class WaveRightPromisesTest {
         due("comes without a wave", x.comes(), -1);
         due("the heat is over", x.count(7), 1);
 
-        promise = "6 fault";
+        sentence("6 fault");
         due("fault ahead of any", new WaveRight().fault(), -1);
         due("fault behind a right one", x.fault(), -1);
         is("judge", x::judge, ARGUMENT);
@@ -186,7 +125,7 @@ public final class WaveRightPromisesTest {
     }
 
     private static void judgeTexts() {
-        promise = "5 judge";
+        sentence("5 judge");
         judgeFault("plus 1", -1);
         judgeFault("plus 1;", 7);
         judgeFault("plus", 4);
@@ -225,7 +164,7 @@ public final class WaveRightPromisesTest {
     }
 
     private static void scores() {
-        promise = "18 would";
+        sentence("18 would");
         scored("plus high", 4);
         scored("plus long", 6);
         scored("plus ride", 3);
@@ -286,7 +225,7 @@ public final class WaveRightPromisesTest {
 
     private static void facts() {
         WaveRight x = sea("heat 7;again 5;" + TWO + "wave 1 at 40 left high 9 long 15;wave 99 at 0 both high 1 long 1;");
-        promise = "9 wave";
+        sentence("9 wave");
         int[] first = {1, 40, 1, 9, 15};
         for (int k = 0; k < 5; k++) {
             due("wave(0, " + k + ")", x.wave(0, k), first[k]);
@@ -297,7 +236,7 @@ public final class WaveRightPromisesTest {
         is("wave(0, 5)", () -> x.wave(0, 5), ELEMENT);
         is("wave(0, -1)", () -> x.wave(0, -1), ELEMENT);
 
-        promise = "11 name";
+        sentence("11 name");
         due("name", x.name(0, 0), 'a');
         due("name", x.name(0, 2), 'n');
         due("name", x.name(0, 3), -1);
@@ -306,14 +245,14 @@ public final class WaveRightPromisesTest {
         is("name", () -> x.name(2, 0), INDEX);
         is("name", () -> x.name(-1, 0), INDEX);
 
-        promise = "29 count";
+        sentence("29 count");
         due("count(4)", x.count(4), 7);
         due("count(5)", x.count(5), 5);
         due("count(13)", x.count(13), -1);
         due("count(15)", x.count(15), -1);
         due("count(-1)", x.count(-1), -1);
 
-        promise = "7 anew";
+        sentence("7 anew");
         is("anew without a sea", () -> new WaveRight().anew(), STATE);
         due("comes", x.comes(), 0);
         due("count(2)", x.count(2), 1);
@@ -323,7 +262,7 @@ public final class WaveRightPromisesTest {
     }
 
     private static void course() {
-        promise = "8 comes";
+        sentence("8 comes");
         WaveRight x = sea("heat 7;again 5;" + TWO + "wave 5 at 12 both high 1 long 9;wave 12 at 12 both high 1 long 9;"
                 + "wave 22 at 12 both high 1 long 9;wave 30 at 12 both high 1 long 9;");
         due("comes", x.comes(), 0);
@@ -356,7 +295,7 @@ public final class WaveRightPromisesTest {
         due("comes at the last minute", z.comes(), 1);
         due("comes behind it", z.comes(), -1);
 
-        promise = "12 goal";
+        sentence("12 goal");
         WaveRight g = sea(TWO + "wave 2 at 14 both high 1 long 9;wave 3 at 12 both high 1 long 9;"
                 + "wave 9 at 12 both high 1 long 9;");
         due("goal", g.goal(0, 15), 10);
@@ -385,7 +324,7 @@ public final class WaveRightPromisesTest {
     private static void contest() {
         String wave = " at 12 both high 4 long 8;";
         WaveRight x = sea(FOUR + "wave 2" + wave + "wave 5" + wave + "wave 6" + wave + "wave 20" + wave);
-        promise = "15 right";
+        sentence("15 right");
         is("right without a wave", () -> x.right(0, 1), STATE);
         is("right of one, without a wave", () -> x.right(1, 1), ARGUMENT);
         is("right of no surfer", () -> x.right(0, 4), INDEX);
@@ -395,7 +334,7 @@ public final class WaveRightPromisesTest {
         due("right of like ones", x.right(3, 0), 0);
         due("right of like ones", x.right(2, 3), 2);
 
-        promise = "14 take";
+        sentence("14 take");
         is("take by no surfer", () -> x.take(4, 2, 0, 10), INDEX);
         is("way 2", () -> x.take(0, 2, 1, 0), ARGUMENT);
         is("way -1", () -> x.take(0, -1, 1, 0), ARGUMENT);
@@ -414,7 +353,7 @@ public final class WaveRightPromisesTest {
         due("OUT", x.count(9), 0);
         due("BACK on the wave", x.surfer(0, 4), -1);
 
-        promise = "16 hinders";
+        sentence("16 hinders");
         due("hinders(0)", x.hinders(0), 0);
         due("hinders(1)", x.hinders(1), 0);
         due("hinders(2)", x.hinders(2), 1);
@@ -428,7 +367,7 @@ public final class WaveRightPromisesTest {
     }
 
     private static void firstRides(WaveRight x) {
-        promise = "26 took";
+        sentence("26 took");
         is("took of the wave that is there", () -> x.took(0, 0), ELEMENT);
         due("comes", x.comes(), 1);
         int[] took = {15, 16, 0, 2};
@@ -439,7 +378,7 @@ public final class WaveRightPromisesTest {
         is("took(0, -1)", () -> x.took(0, -1), ELEMENT);
         is("took(4, 9)", () -> x.took(4, 9), INDEX);
 
-        promise = "17 ride";
+        sentence("17 ride");
         int[] ride = {16, 0, 4, 2, 0, 0, 0};
         int[] hindered = {0, 0, 3, 1, 1, 1, 0};
         for (int k = 0; k < 7; k++) {
@@ -452,7 +391,7 @@ public final class WaveRightPromisesTest {
         is("ride(0, 0, -1)", () -> x.ride(0, 0, -1), ELEMENT);
         is("ride(4, 9, 9)", () -> x.ride(4, 9, 9), INDEX);
 
-        promise = "13 row";
+        sentence("13 row");
         due("PRIORITY", x.count(8), 1);
         int[] row = {1, 2, 3, 0, -1};
         for (int k = 0; k < 5; k++) {
@@ -463,7 +402,7 @@ public final class WaveRightPromisesTest {
     }
 
     private static void leaders(WaveRight x) {
-        promise = "10 surfer";
+        sentence("10 surfer");
         int[] ann = {10, 2, 1, 10, -1, 0, 1, 16, 0, 16, 0};
         int[] dee = {14, 5, 1, 14, -1, 1, 1, 0, 3, 0, 0};
         for (int k = 0; k < 11; k++) {
@@ -474,14 +413,14 @@ public final class WaveRightPromisesTest {
         is("surfer(0, -1)", () -> x.surfer(0, -1), ELEMENT);
         is("surfer(4, 11)", () -> x.surfer(4, 11), INDEX);
 
-        promise = "19 ranked";
+        sentence("19 ranked");
         for (int k = 0; k < 4; k++) {
             due("ranked(" + k + ")", x.ranked(k), k);
         }
         is("ranked(4)", () -> x.ranked(4), ELEMENT);
         is("ranked(-1)", () -> x.ranked(-1), ELEMENT);
 
-        promise = "20 need";
+        sentence("20 need");
         due("need of the first", x.need(0), 0);
         due("need of two scores", x.need(1), 9);
         due("need of one who hindered", x.need(2), 17);
@@ -497,13 +436,13 @@ public final class WaveRightPromisesTest {
     }
 
     private static void lookingBack(WaveRight x) {
-        promise = "23 seen";
+        sentence("23 seen");
         due("seen(0)", x.seen(0), 8);
         due("seen(1)", x.seen(1), 16);
         due("seen(2)", x.seen(2), -1);
         due("seen(-1)", x.seen(-1), -1);
 
-        promise = "24 worth";
+        sentence("24 worth");
         due("worth(0, 0, 0)", x.worth(0, 0, 0), 16);
         due("worth(0, 0, 6)", x.worth(0, 0, 6), 16);
         due("worth(0, 1, 0)", x.worth(0, 1, 0), 32);
@@ -518,7 +457,7 @@ public final class WaveRightPromisesTest {
         is("worth(0, 0, 7)", () -> x.worth(0, 0, 7), ARGUMENT);
         is("worth(0, 0, -1)", () -> x.worth(0, 0, -1), ARGUMENT);
 
-        promise = "25 least";
+        sentence("25 least");
         due("least(0, 0, 1)", x.least(0, 0, 1), 0);
         due("least(0, 1, 1)", x.least(0, 1, 1), 12);
         due("least(0, 2, 1)", x.least(0, 2, 1), 14);
@@ -536,7 +475,7 @@ public final class WaveRightPromisesTest {
     }
 
     private static void withPriority(WaveRight x) {
-        promise = "15 right with PRIORITY";
+        sentence("15 right with PRIORITY");
         due("right", x.right(0, 1), 1);
         due("right", x.right(0, 3), 3);
         due("take", x.take(3, 1, 2, 0), 16);
@@ -555,7 +494,7 @@ public final class WaveRightPromisesTest {
         due("right of one who is not", x.right(1, 0), 0);
         due("BACK", x.surfer(1, 4), 8);
 
-        promise = "8 sent in";
+        sentence("8 sent in");
         due("HINDERINGS", x.surfer(3, 5), 2);
         due("BACK", x.surfer(3, 4), -1);
         due("RIDES", x.surfer(3, 6), 2);
@@ -581,7 +520,7 @@ public final class WaveRightPromisesTest {
     }
 
     private static void bestRides() {
-        promise = "21 best";
+        sentence("21 best");
         WaveRight x = sea("surfer a at 14 swims 9;surfer b at 11 swims 9;wave 1 at 10 right high 2 long 9;"
                 + "wave 9 at 10 both high 2 long 9;");
         is("best without a wave", () -> x.best(0, 0), STATE);
@@ -628,7 +567,7 @@ public final class WaveRightPromisesTest {
         String waves = "heat 20;wave 2 at 10 right high 5 long 8;wave 6 at 10 both high 6 long 8;"
                 + "wave 7 at 10 left high 5 long 8;wave 11 at 10 left high 5 long 8;wave 25 at 10 both high 9 long 9;";
         WaveRight x = sea(TWO + waves);
-        promise = "22 plan";
+        sentence("22 plan");
         due("TOTAL", x.plan(0, 0), 88);
         due("first", x.plan(0, 1), 1);
         due("second", x.plan(0, 2), 3);
@@ -647,7 +586,7 @@ public final class WaveRightPromisesTest {
         due("nothing is left", x.plan(0, 0), 40);
         due("nothing is left", x.plan(0, 1), -1);
 
-        promise = "27 swim";
+        sentence("27 swim");
         WaveRight y = sea(TWO + waves);
         due("swim", y.swim(0, 10), 0);
         due("swim", y.swim(0, 13), 2);
@@ -658,7 +597,7 @@ public final class WaveRightPromisesTest {
         y.comes();
         due("swim from the MINUTE that it is", y.swim(0, 9), 3);
 
-        promise = "28 reach";
+        sentence("28 reach");
         due("how many", sea(TWO + waves).reach(0, 0, 0), 5);
         due("the least", sea(TWO + waves).reach(0, 0, 1), 10);
         due("the greatest", sea(TWO + waves).reach(0, 0, 2), 14);
@@ -693,9 +632,6 @@ public final class WaveRightPromisesTest {
         contest();
         bestRides();
         plans();
-        System.out.println(wrong == 0 ? "all promises hold" : wrong + " answers are not as due");
-        if (wrong != 0) {
-            System.exit(1);
-        }
+        finish();
     }
 }

@@ -156,9 +156,9 @@ public final class WaveRightRulesTest {
         x.take(1, 1, 1, 0);
         x.comes();
         x.seen(0);
-        long sum = asked(x, 30);
+        long sum = asked(x, 18);
         before = bean.getThreadAllocatedBytes(self);
-        sum += asked(x, 30);
+        sum += asked(x, 18);
         for (int k = 0; k < 20; k++) {
             x.anew();
             x.comes();
