@@ -259,6 +259,25 @@ public final class WaveRightAdviceEdgesTest extends Due {
         plan("of one who has no RIGHT of the one on the WAVE", s, 1, 5, 1, NONE);
     }
 
+    private static void plansOfSeasInTurn() {
+        sentence("it is THE SEA in place of the one before: of its own WAVES alone");
+        String surfers = "surfer a at 20 swims 5;surfer b at 20 swims 5;";
+        String first = wave(2, 20, "left", 3, 5);
+        String second = wave(9, 20, "left", 4, 5);
+        WaveRight x = new WaveRight();
+        for (String waves : new String[] {first + second, first + second, first, first, "", "", first + second, "", first}) {
+            write(x, surfers + waves);
+            due("sea", x.sea(), waves.isEmpty() ? 0 : waves.equals(first) ? 1 : 2);
+            if (waves.isEmpty()) {
+                plan("of no WAVE", x, 0, 0, NONE, NONE);
+            } else if (waves.equals(first)) {
+                plan("of one WAVE", x, 0, 15, 0, NONE);
+            } else {
+                plan("of two WAVES", x, 0, 35, 0, 1);
+            }
+        }
+    }
+
     // ---- looking back ----
 
     /** Waves at 20 in turn taken by the first one (left) so that the SCORES told are SEEN, the last one the latest. */
@@ -361,13 +380,13 @@ public final class WaveRightAdviceEdgesTest extends Due {
         sentence("best two by one's SCORES now, HINDERING aside");
         WaveRight z = seen(20, 30);
         z.take(0, LEFT, 1, 0);
-        z.take(1, LEFT, 5, 0);
+        z.take(1, LEFT, 2, 0);
         z.comes();
         due("HINDERINGS", z.surfer(0, 5), 1);
         due("TOTAL of one who hindered", z.surfer(0, 7), 30);
         due("worth(0, 0, 0) of one who hindered", z.worth(0, 0, 0), 50);
-        due("worth(0, 1, 1) of one who hindered", z.worth(0, 1, 1), 70 + 60 + 50);
-        due("least(0, 1, 1) of one who hindered", z.least(0, 1, 1), 30);
+        due("worth(0, 1, 1) of one who hindered", z.worth(0, 1, 1), 50 + 60 + 50);
+        due("least(0, 1, 1) of one who hindered", z.least(0, 1, 1), 24);
         sentence("IllegalArgumentException: one is none");
         for (int none : new int[] {-1, 7, Integer.MIN_VALUE, Integer.MAX_VALUE}) {
             is("worth(0, " + none + ", 0)", () -> x.worth(0, none, 0), ARGUMENT);
@@ -518,6 +537,7 @@ public final class WaveRightAdviceEdgesTest extends Due {
         plans();
         plansLater();
         plansByState();
+        plansOfSeasInTurn();
         seens();
         worths();
         leasts();

@@ -566,6 +566,7 @@ public final class WaveRightHeatEdgesTest extends Due {
         x.comes();
         due("HINDERINGS", x.surfer(0, 5), 1);
         due("HINDERINGS of the farther one", x.surfer(1, 5), 0);
+        due("UNJUDGED ones: who HINDERED is none", x.count(12), 0);
     }
 
     // ---- goes by ----
@@ -692,6 +693,13 @@ public final class WaveRightHeatEdgesTest extends Due {
         x.comes();
         took(x, 0, 0, -1, -1, 0);
         took(x, 1, 0, -1, -1, 0);
+        WaveRight y = judged("surfer a at 21 swims 9;surfer b at 20 swims 9;" + waves, "plus turns*10");
+        y.comes();
+        y.take(0, RIGHT, 1, 9);
+        y.take(1, RIGHT, 1, 0);
+        y.comes();
+        due("who HINDERED", y.ride(0, 0, 5), 1);
+        took(y, 0, 3, 0, 0, 1);
     }
 
     private static void counts() {

@@ -240,15 +240,21 @@ public final class WaveRightModelTest {
         if (draw(3) == 0 && !model.rides.isEmpty()) {
             return model.rides.get(draw(model.rides.size())).surfer;
         }
-        return draw(60) == 0 ? draw(2) * 7 - 1 : draw(Math.max(1, model.surfers()));
+        return draw(60) == 0 ? beyond(7) : draw(Math.max(1, model.surfers()));
     }
 
     private int wave() {
-        return draw(60) == 0 ? draw(2) * 22 - 1 : draw(Math.max(1, model.waves()));
+        return draw(60) == 0 ? beyond(22) : draw(Math.max(1, model.waves()));
     }
 
     private static int what(int most) {
-        return draw(60) == 0 ? draw(2) * (most + 2) - 1 : draw(most + 1);
+        return draw(60) == 0 ? beyond(most + 2) : draw(most + 1);
+    }
+
+    /** A number that is none: -1, the first one above, or one of the two farthest. */
+    private static int beyond(int many) {
+        int[] none = {-1, many - 1, Integer.MIN_VALUE, Integer.MAX_VALUE};
+        return none[draw(4)];
     }
 
     private void ask() {
