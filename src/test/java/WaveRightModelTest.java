@@ -335,7 +335,7 @@ public final class WaveRightModelTest {
         for (int k = 0; k < RUNS; k++) {
             new WaveRightModelTest().run();
         }
-        if (args.length > 1) {
+        if (args.length > 0) {
             System.out.println(ANSWERED);
         }
         System.out.println(wrong == 0 ? "all drawn calls are answered alike" : wrong + " drawn calls are not");

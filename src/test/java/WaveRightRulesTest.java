@@ -172,7 +172,7 @@ public final class WaveRightRulesTest {
     }
 
     public static void main(String[] args) throws IOException {
-        Path main = Paths.get(args[0]);
+        Path main = Paths.get("src/main/java/WaveRight.java");
         String source = Files.readString(main);
         face(source, Files.readString(Paths.get("../shared/DOC.md")));
         words(source);
