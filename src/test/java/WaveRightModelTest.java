@@ -4,6 +4,8 @@ import java.util.ArrayList;
 import java.util.List;
 import java.util.Map;
 import java.util.TreeMap;
+import java.util.regex.Matcher;
+import java.util.regex.Pattern;
 
 /** Runs of drawn calls, each answered by WaveRight and by WaveRightModel: they must answer alike. */
 public final class WaveRightModelTest {
@@ -234,6 +236,32 @@ public final class WaveRightModelTest {
         return hurt.toString();
     }
 
+    /** A run of the text's words, numbers and signs left out, told twice or put elsewhere. */
+    private static String jumbled(String text) {
+        List<String> words = new ArrayList<>();
+        Matcher word = Pattern.compile("[a-z]+|[0-9]+|[^a-z0-9 \\t\\n]").matcher(text);
+        while (word.find()) {
+            words.add(word.group());
+        }
+        int from = draw(words.size() + 1);
+        List<String> run = words.subList(from, Math.min(words.size(), from + 1 + draw(3)));
+        List<String> copy = new ArrayList<>(run);
+        int kind = draw(3);
+        if (kind != 0) {
+            run.clear();
+        }
+        if (kind != 1) {
+            words.addAll(draw(words.size() + 1), copy);
+        }
+        String told = String.join(" ", words);
+        return told.length() <= 400 ? told : told.substring(0, 400);
+    }
+
+    private static String maybeWrong(String text) {
+        int kind = draw(8);
+        return kind == 0 ? jumbled(text) : kind == 1 ? hurt(text) : text;
+    }
+
     // ---- drawn calls ----
 
     private int surfer() {
@@ -310,7 +338,7 @@ public final class WaveRightModelTest {
         }
         while (left > 0) {
             String sea = drawnSea();
-            text(draw(4) == 0 ? hurt(sea) : sea, "sea");
+            text(maybeWrong(sea), "sea");
             for (int heats = 1 + draw(3); heats > 0 && left > 0; heats--) {
                 for (int k = 20 + draw(100); k > 0 && left > 0 && (!model.over || draw(5) != 0); k--) {
                     if (draw(model.rides.isEmpty() ? 2 : 3) == 0) {
@@ -320,7 +348,7 @@ public final class WaveRightModelTest {
                     }
                     if (draw(50) == 0) {
                         String judge = drawnJudge();
-                        text(draw(4) == 0 ? hurt(judge) : judge, "judge");
+                        text(maybeWrong(judge), "judge");
                     }
                 }
                 if (model.surfers() == 0) {

@@ -10,6 +10,15 @@ public final class WaveRightTextEdgesTest extends Due {
     private static final String TWO = "surfer a at 1 swims 1;surfer b at 2 swims 2;";
     private static final String WAVE = "wave 5 at 6 left high 7 long 8;";
 
+    // all words of the texts, a number, NAMES, signs, and some that are none
+    private static final String SEA_WORDS = "surfer at swims heat again wave left right both high long a b plus 7 ; # [";
+    private static final String JUDGE_WORDS = "plus less if and or not high long ride far turns minute rides best 1 [ ] ( )"
+            + " + - * / < = > ; wave x #";
+    private static final String LINES = "surfer heat again wave";
+    private static final String NAMES = "a b plus";
+    private static final String PARTS = "1 [ high long ride far turns minute rides best";
+    private static final String ATOMS = "not ( " + PARTS;
+
     private static int fault(String marked) {
         return marked.indexOf('^');
     }
@@ -358,6 +367,46 @@ public final class WaveRightTextEdgesTest extends Due {
         theSea("surfer a at 1 ^1;");
         theSea("surfer a at 1 swims 1 ^heat 5;");
         theSea("heat 5 ^again 5;");
+        theSea("surfer a ^swims 1;");
+        theSea("surfer ^1 swims 1;");
+        theSea("wave 5 ^left high 7 long 8;");
+        theSea("wave 5 at 6 left ^long 8;");
+        String[][] surfer = {{"surfer", LINES}, {"a", NAMES}, {"at", "at"}, {"7", "7"}, {"swims", "swims"}, {"7", "7"},
+            {";", ";"}, {"surfer", LINES}, {"b", "b plus"}};
+        String[][] heat = {{"heat", LINES}, {"7", "7"}, {";", ";"}, {"again", "surfer again wave"}, {"7", "7"}, {";", ";"},
+            {"wave", "surfer wave"}};
+        String[][] wave = {{"wave", LINES}, {"7", "7"}, {"at", "at"}, {"7", "7"}, {"both", "left right both"},
+            {"high", "high"}, {"7", "7"}, {"long", "long"}, {"7", "7"}, {";", ";"}, {"wave", LINES}};
+        everyNext(SEA_WORDS, surfer, WaveRightTextEdgesTest::theSea);
+        everyNext(SEA_WORDS, heat, WaveRightTextEdgesTest::theSea);
+        everyNext(SEA_WORDS, wave, WaveRightTextEdgesTest::theSea);
+    }
+
+    /**
+     * A text by steps, each of what stands there and of all that may: all other words are THE FAULT there, and none
+     * of those is.
+     */
+    private static void everyNext(String words, String[][] steps, Consumer<String> read) {
+        StringBuilder text = new StringBuilder();
+        for (String[] step : steps) {
+            List<String> may = List.of(step[1].split(" "));
+            for (String word : words.split(" ")) {
+                if (may.contains(word)) {
+                    goesOn(text + word, read);
+                } else {
+                    read.accept(text + "^" + word);
+                }
+            }
+            text.append(step[0]).append(' ');
+        }
+    }
+
+    /** What may stand there is no fault by itself: the text is right, or more must come. */
+    private static void goesOn(String text, Consumer<String> read) {
+        WaveRight x = new WaveRight();
+        write(x, text);
+        boolean right = answer(text.startsWith("plus") || text.startsWith("less") ? x::judge : x::sea) != ARGUMENT;
+        read.accept(right ? text : text + "^");
     }
 
     private static void seaBlanks() {
@@ -653,6 +702,26 @@ public final class WaveRightTextEdgesTest extends Due {
                 WaveRightTextEdgesTest::theJudge);
     }
 
+    private static void judgeNext() {
+        sentence("THE JUDGE: each word, number and sign where it may stand, and nowhere else");
+        String line = "+ - * / if ;";
+        String left = "+ - * / < = >";
+        String right = "+ - * / and or ;";
+        String within = "+ - * / and or )";
+        String[][] sums = {{"plus", "plus less"}, {"1", PARTS}, {"+", line}, {"high", PARTS}, {"*", line}, {"[", PARTS},
+            {"ride", PARTS}, {"/", "+ - * / ]"}, {"[", PARTS}, {"best", PARTS}, {"]", "+ - * / ]"}, {"-", "+ - * / ]"},
+            {"far", PARTS}, {"]", "+ - * / ]"}, {"/", line}, {"turns", PARTS}, {";", line}, {"less", "plus less"},
+            {"1", PARTS}, {"if", line}};
+        String[][] truths = {{"less", "plus less"}, {"1", PARTS}, {"if", line}, {"not", ATOMS}, {"long", ATOMS}, {"<", left},
+            {"1", PARTS}, {"and", right}, {"(", ATOMS}, {"minute", ATOMS}, {"-", left}, {"[", PARTS}, {"1", PARTS},
+            {"]", "+ - * / ]"}, {"=", left}, {"rides", PARTS}, {"or", within}, {"(", ATOMS}, {"not", ATOMS}, {"[", ATOMS},
+            {"1", PARTS}, {"]", "+ - * / ]"}, {">", left}, {"1", PARTS}, {"*", within}, {"1", PARTS}, {")", within},
+            {")", "and or )"}, {"and", "and or ;"}, {"1", ATOMS}, {"=", left}, {"1", PARTS}, {";", right},
+            {"plus", "plus less"}};
+        everyNext(JUDGE_WORDS, sums, WaveRightTextEdgesTest::theJudge);
+        everyNext(JUDGE_WORDS, truths, WaveRightTextEdgesTest::theJudge);
+    }
+
     private static void judgeStays() {
         sentence("IllegalArgumentException: the text is wrong; a call that throws changes nothing but the TAPE and fault()");
         String sea = TWO + "wave 2 at 2 both high 4 long 9;wave 9 at 3 left high 5 long 6;";
@@ -710,6 +779,7 @@ public final class WaveRightTextEdgesTest extends Due {
         judgeTruths();
         judgeDeep();
         judgeFaults();
+        judgeNext();
         judgeStays();
         finish();
     }
